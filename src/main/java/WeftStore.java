@@ -124,7 +124,7 @@ public final class WeftStore {
                 ended++;
             }
         }
-        nodes.end(node, now);
+        nodes.leave(node, now);
         startAnew();
         return ended;
     }
@@ -412,8 +412,8 @@ public final class WeftStore {
         if (rounds < 1 || rounds > FARTHEST) {
             throw new IllegalArgumentException("rounds are 1 to 30");
         }
-        for (int i = 0; i < rounds; i++) {
-            marks.sendAll(nodes.there);
+        for (int i = 0; i < rounds && marks.awake != 0; i++) {
+            marks.sendAll();
         }
         return Integer.bitCount(marks.awake);
     }
@@ -500,7 +500,7 @@ public final class WeftStore {
     }
 
     private void endEdge(int edge) {
-        edges.gone[edge] = now;
+        edges.end(edge, now);
         nodes.touched[edges.from[edge]] = now;
         nodes.touched[edges.to[edge]] = now;
     }
@@ -592,7 +592,7 @@ public final class WeftStore {
     }
 
     private static boolean has(int nodesInSet, int node) {
-        return (nodesInSet & bit(node)) != 0;
+        return (nodesInSet >>> node & 1) != 0;
     }
 
     private static int lowest(int nodesInSet) {
@@ -604,35 +604,67 @@ public final class WeftStore {
         return NONE;
     }
 
+    /** Things by their numbers, each with the time since which it is there and the one since which it is gone. */
+    private abstract static class Past {
+        final int[] born;
+        final int[] gone;
+        int count = 0;
+
+        Past(int most) {
+            born = new int[most];
+            gone = new int[most];
+        }
+
+        boolean isThere(int number) {
+            return number >= 0 && number < count && gone[number] == NEVER;
+        }
+
+        boolean wasThere(int number, int when) {
+            return number >= 0 && number < count && born[number] <= when && when < gone[number];
+        }
+
+        int come(int when) {
+            int number = count;
+            count++;
+            born[number] = when;
+            gone[number] = NEVER;
+            return number;
+        }
+
+        void end(int number, int when) {
+            gone[number] = when;
+        }
+
+        int countAsOf(int when) {
+            int found = 0;
+            for (int i = 0; i < count; i++) {
+                if (wasThere(i, when)) {
+                    found++;
+                }
+            }
+            return found;
+        }
+    }
+
     /** The nodes of all times, and every value that was written. */
-    private static final class Nodes {
+    private static final class Nodes extends Past {
         final int[] label = new int[NODES];
         final int[] value = new int[NODES];
-        final int[] born = new int[NODES];
-        final int[] gone = new int[NODES];
         final int[] touched = new int[NODES];
         // No call writes more values than calls ahead of it asked for, so there are at most CALLS.
         final int[] pastNode = new int[CALLS];
         final int[] pastValue = new int[CALLS];
         final int[] pastTime = new int[CALLS];
         int past = 0;
-        int count = 0;
         int there = 0;
 
-        boolean isThere(int node) {
-            return node >= 0 && node < count && has(there, node);
-        }
-
-        boolean wasThere(int node, int when) {
-            return node >= 0 && node < count && born[node] <= when && when < gone[node];
+        Nodes() {
+            super(NODES);
         }
 
         int add(int newLabel, int newValue, int when) {
-            int node = count;
-            count++;
+            int node = come(when);
             label[node] = newLabel;
-            born[node] = when;
-            gone[node] = NEVER;
             there |= bit(node);
             put(node, newValue, when);
             return node;
@@ -649,8 +681,8 @@ public final class WeftStore {
             }
         }
 
-        void end(int node, int when) {
-            gone[node] = when;
+        void leave(int node, int when) {
+            end(node, when);
             touched[node] = when;
             there &= ~bit(node);
         }
@@ -662,16 +694,6 @@ public final class WeftStore {
                 }
             }
             return value[node];
-        }
-
-        int countAsOf(int when) {
-            int found = 0;
-            for (int n = 0; n < count; n++) {
-                if (wasThere(n, when)) {
-                    found++;
-                }
-            }
-            return found;
         }
 
         int labelled(int wanted) {
@@ -686,41 +708,21 @@ public final class WeftStore {
     }
 
     /** The told edges of all times. */
-    private static final class Edges {
+    private static final class Edges extends Past {
         final int[] from = new int[EDGES];
         final int[] label = new int[EDGES];
         final int[] to = new int[EDGES];
-        final int[] born = new int[EDGES];
-        final int[] gone = new int[EDGES];
-        int count = 0;
 
-        boolean isThere(int edge) {
-            return edge >= 0 && edge < count && gone[edge] == NEVER;
-        }
-
-        boolean wasThere(int edge, int when) {
-            return edge >= 0 && edge < count && born[edge] <= when && when < gone[edge];
+        Edges() {
+            super(EDGES);
         }
 
         int add(int source, int newLabel, int target, int when) {
-            int edge = count;
-            count++;
+            int edge = come(when);
             from[edge] = source;
             label[edge] = newLabel;
             to[edge] = target;
-            born[edge] = when;
-            gone[edge] = NEVER;
             return edge;
-        }
-
-        int countAsOf(int when) {
-            int found = 0;
-            for (int e = 0; e < count; e++) {
-                if (wasThere(e, when)) {
-                    found++;
-                }
-            }
-            return found;
         }
 
         int countLike(int source, int wanted, int target) {
@@ -879,10 +881,12 @@ public final class WeftStore {
             int bestGain = 0;
             for (int n = 0; n < nodes.count; n++) {
                 for (int m = 0; m < MACHINES; m++) {
-                    if (has(movable, n) && isUp[m] && m != host[n] && load(m) + 1 <= most && gain(n, m) > bestGain) {
+                    boolean isFree = has(movable, n) && isUp[m] && m != host[n] && load(m) + 1 <= most;
+                    int gain = isFree ? cutFewer(n, m) : 0;
+                    if (gain > bestGain) {
                         bestNode = n;
                         bestMachine = m;
-                        bestGain = gain(n, m);
+                        bestGain = gain;
                     }
                 }
             }
@@ -892,7 +896,7 @@ public final class WeftStore {
             return bestNode;
         }
 
-        private int gain(int node, int target) {
+        private int cutFewer(int node, int target) {
             int fewer = 0;
             for (int e = 0; e < edges.count; e++) {
                 boolean leaves = edges.from[e] == node;
@@ -1040,7 +1044,7 @@ public final class WeftStore {
 
         int forth(int label, int sources) {
             int found = 0;
-            for (int n = 0; n < NODES; n++) {
+            for (int n = 0; n < NODES && sources >>> n != 0; n++) {
                 if (has(sources, n)) {
                     found |= known[label][n];
                 }
@@ -1261,30 +1265,25 @@ public final class WeftStore {
             awake = there;
         }
 
-        void sendAll(int there) {
-            int next = 0;
+        void sendAll() {
+            int senders = awake;
+            awake = 0;
             for (int n = 0; n < NODES; n++) {
                 sent[n] = mark[n];
             }
-            for (int n = 0; n < NODES; n++) {
-                int got = has(there, n) ? lowestSentTo(n) : mark[n];
-                if (got < mark[n]) {
-                    mark[n] = got;
-                    next |= bit(n);
+            for (int e = 0; e < edges.count; e++) {
+                if (edges.isThere(e)) {
+                    sendAlong(senders, edges.from[e], edges.to[e]);
+                    sendAlong(senders, edges.to[e], edges.from[e]);
                 }
             }
-            awake = next;
         }
 
-        private int lowestSentTo(int node) {
-            int senders = edges.neighbours(bit(node)) & awake;
-            int lowest = NODES;
-            for (int n = 0; n < NODES; n++) {
-                if (has(senders, n) && sent[n] < lowest) {
-                    lowest = sent[n];
-                }
+        private void sendAlong(int senders, int sender, int taker) {
+            if (has(senders, sender) && sent[sender] < mark[taker]) {
+                mark[taker] = sent[sender];
+                awake |= bit(taker);
             }
-            return lowest;
         }
     }
 }

@@ -8,6 +8,8 @@ public final class MachinesTest {
         shiftsWithinTheSpread();
         shiftsAmongThoseThatAreUp();
         shiftsOfSeveral();
+        copiesOfSeveral();
+        atTheLimits();
         Check.end();
     }
 
@@ -131,6 +133,33 @@ public final class MachinesTest {
         x.toggle(2);
         x.edge(5, 1, 0);
         Check.eq("only one is up", x.shift(), -1);
+    }
+
+    private static void copiesOfSeveral() {
+        WeftStore x = withNodes(6);
+        x.edge(0, 0, 1);
+        Check.eq("the first edge", x.copies(0), 1);
+        x.edge(0, 0, 2);
+        x.edge(0, 0, 4);
+        x.edge(5, 0, 3);
+        Check.eq("copies(0)", x.copies(0), 4);
+        Check.eq("copies(1)", x.copies(1), 1);
+        Check.eq("copies(2)", x.copies(2), 2);
+        x.dropNode(0);
+        Check.eq("copies(0)", x.copies(0), 1);
+    }
+
+    private static void atTheLimits() {
+        WeftStore x = withNodes(24);
+        for (int e = 0; e < 60; e++) {
+            x.edge(23, e % 4, 3 * (e % 8));
+        }
+        Check.eq("cut()", x.cut(), 60);
+        Check.eq("copies(0)", x.copies(0), 1);
+        Check.eq("copies(2)", x.copies(2), 8);
+        Check.eq("shift()", x.shift(), 23);
+        Check.eq("cut()", x.cut(), 0);
+        Check.eq("shift()", x.shift(), -1);
     }
 
     private static void shiftsOfSeveral() {

@@ -144,12 +144,18 @@ public final class RoundsTest {
     }
 
     private static void least() {
+        WeftStore one = new WeftStore();
+        one.node(0, 0);
+        one.node(0, 0);
+        one.edge(0, 0, 1);
+        Check.eq("against the edge", one.least(1), 0);
         WeftStore x = row(5);
         x.dropEdge(1);
         int[] due = {0, 0, 2, 2, 2};
         for (int n = 0; n < due.length; n++) {
             Check.eq("least(" + n + ")", x.least(n), due[n]);
         }
+        Check.eq("the first edge, from its end", x.least(1), 0);
         x.rule(0, 0, 1);
         x.edge(4, 0, 1);
         Check.eq("least(2)", x.least(2), 0);

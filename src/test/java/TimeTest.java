@@ -6,6 +6,7 @@ public final class TimeTest {
         valuesOfCommits();
         sizes();
         longPast();
+        atTheLimits();
         Check.end();
     }
 
@@ -101,6 +102,25 @@ public final class TimeTest {
         x.rule(0, 0, 0);
         x.edge(2, 0, 2);
         Check.eq("told edges alone", x.sizeAt(8), 201);
+    }
+
+    private static void atTheLimits() {
+        WeftStore x = new WeftStore();
+        for (int n = 0; n < 24; n++) {
+            x.node(0, n);
+        }
+        Check.noNode("valueAt(24, 24)", () -> x.valueAt(24, 24));
+        Check.noNode("set(24, 0)", () -> x.set(24, 0));
+        Check.noNode("dropNode(24)", () -> x.dropNode(24));
+        Check.noNode("machine(24)", () -> x.machine(24));
+        for (int e = 0; e < 60; e++) {
+            x.edge(e % 24, 0, 0);
+        }
+        Check.noNode("dropEdge(60)", () -> x.dropEdge(60));
+        Check.eq("sizeAt(84)", x.sizeAt(84), 2460);
+        Check.eq("sizeAt(24)", x.sizeAt(24), 2400);
+        Check.eq("valueAt(23, 84)", x.valueAt(23, 84), 23);
+        Check.eq("dropNode(0)", x.dropNode(0), 60);
     }
 
     private static void longPast() {

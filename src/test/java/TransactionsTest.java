@@ -15,6 +15,8 @@ public final class TransactionsTest {
         brokenShapes();
         tooMany();
         numbers();
+        clashesOfSeveralWrites();
+        atTheLimits();
         Check.end();
     }
 
@@ -111,6 +113,10 @@ public final class TransactionsTest {
         Check.noNode("unlink(0, -1)", () -> x.unlink(0, -1));
         Check.noNode("unlink(0, 64)", () -> x.unlink(0, 64));
         Check.noNode("unlink(1, 0)", () -> x.unlink(1, 0));
+        Check.noNode("unlink(-1, 0)", () -> x.unlink(-1, 0));
+        Check.noNode("unlink(4, 0)", () -> x.unlink(4, 0));
+        x.commit(x.begin(), false);
+        Check.noNode("unlink(1, 0), it is over", () -> x.unlink(1, 0));
         Check.eq("sees(0, 0)", x.sees(0, 0), 2);
         x.unlink(0, 1);
         Check.eq("sees(0, 0)", x.sees(0, 0), 1);
@@ -361,6 +367,50 @@ public final class TransactionsTest {
         x.link(0, 0, 0, 0);
         x.set(0, 0);
         Check.eq("a clash goes first", x.commit(0, true), -1);
+    }
+
+    /** One clash among many writes is enough, whichever it is. */
+    private static void clashesOfSeveralWrites() {
+        for (int touched = 0; touched < 8; touched++) {
+            WeftStore x = withNodes(9);
+            x.edge(3, 0, 4);
+            x.edge(5, 0, 5);
+            x.begin();
+            x.write(0, 0, 1);
+            x.link(0, 1, 0, 2);
+            x.link(0, 6, 0, 7);
+            x.unlink(0, 0);
+            x.unlink(0, 1);
+            x.set(touched, 99);
+            Check.eq("node " + touched + " was touched", x.commit(0, true), -1);
+        }
+    }
+
+    private static void atTheLimits() {
+        WeftStore x = withNodes(24);
+        for (int i = 0; i < 60; i++) {
+            x.edge(i % 24, i % 4, i % 23);
+        }
+        x.begin();
+        x.begin();
+        Check.noNode("read(0, 24)", () -> x.read(0, 24));
+        Check.noNode("write(0, 24, 0)", () -> x.write(0, 24, 0));
+        Check.noNode("sees(0, 24)", () -> x.sees(0, 24));
+        Check.noNode("link(0, 24, 0, 0)", () -> x.link(0, 24, 0, 0));
+        Check.noNode("unlink(0, 60)", () -> x.unlink(0, 60));
+        Check.eq("sees(0, 11)", x.sees(0, 11), 3);
+        for (int e = 0; e < 60; e++) {
+            x.unlink(0, e);
+        }
+        for (int n = 0; n < 24; n++) {
+            Check.eq("sees(0, n)", x.sees(0, n), 0);
+            x.write(0, n, -n);
+        }
+        Check.eq("all of it", x.commit(0, true), 85);
+        Check.eq("sizeAt(84)", x.sizeAt(84), 2460);
+        Check.eq("sizeAt(85)", x.sizeAt(85), 2400);
+        Check.eq("valueAt(23, 85)", x.valueAt(23, 85), -23);
+        Check.eq("sees(1, 23)", x.sees(1, 23), 2);
     }
 
     private static void numbers() {
