@@ -33,8 +33,8 @@ public final class WeftStore {
     private final Transaction[] transactions;
     private final Pattern[] patterns;
     private final int[] wishes;
-    private int patternCount;
-    private int now;
+    private int patternCount = 0;
+    private int now = 0;
 
     public WeftStore() {
         nodes = new Nodes();
@@ -54,8 +54,6 @@ public final class WeftStore {
             patterns[i] = new Pattern();
         }
         wishes = new int[NODES];
-        patternCount = 0;
-        now = 0;
     }
 
     // ---- writes
@@ -606,14 +604,10 @@ public final class WeftStore {
 
     /** Things by their numbers, each with the time since which it is there and the one since which it is gone. */
     private abstract static class Past {
-        final int[] born;
-        final int[] gone;
+        // Long enough for edges, of which there can be more than nodes.
+        final int[] born = new int[EDGES];
+        final int[] gone = new int[EDGES];
         int count = 0;
-
-        Past(int most) {
-            born = new int[most];
-            gone = new int[most];
-        }
 
         boolean isThere(int number) {
             return number >= 0 && number < count && gone[number] == NEVER;
@@ -657,10 +651,6 @@ public final class WeftStore {
         final int[] pastTime = new int[CALLS];
         int past = 0;
         int there = 0;
-
-        Nodes() {
-            super(NODES);
-        }
 
         int add(int newLabel, int newValue, int when) {
             int node = come(when);
@@ -712,10 +702,6 @@ public final class WeftStore {
         final int[] from = new int[EDGES];
         final int[] label = new int[EDGES];
         final int[] to = new int[EDGES];
-
-        Edges() {
-            super(EDGES);
-        }
 
         int add(int source, int newLabel, int target, int when) {
             int edge = come(when);
