@@ -1211,10 +1211,19 @@ public final class WeftStore {
                     return goOnFrom(pattern, left, sources, within, depth + 1)
                             | goOnFrom(pattern, right, sources, within, depth + 1);
                 case MANY:
-                    return goOnOften(pattern, left, sources, within, depth + 1);
+                    return goOnOften(pattern, once(pattern, left), sources, within, depth + 1);
                 default:
                     return goOneStep(pattern, step, sources) & within;
             }
+        }
+
+        // Many times many times is many times, but costs twice as much for each of them.
+        private static int once(Pattern pattern, int step) {
+            int found = step;
+            for (int i = 0; i < STEPS && pattern.kind[found] == MANY; i++) {
+                found = pattern.left[found];
+            }
+            return found;
         }
 
         private int goOnOften(Pattern pattern, int step, int sources, int within, int depth) {

@@ -20,6 +20,13 @@ final class Check {
         }
     }
 
+    static void same(String call, String got, String due) {
+        asked++;
+        if (!got.equals(due)) {
+            tell(call + " answered " + got + ", due is " + due);
+        }
+    }
+
     static void noNode(String call, Runnable run) {
         raises(call, run, IndexOutOfBoundsException.class);
     }
