@@ -144,7 +144,9 @@ final class BoundsOfWalks {
             Check.eq("one by one, behind " + r, x.round(1), Math.max(0, 24 - r));
         }
         Check.eq("no nodes", new WeftStore().round(30), 0);
-        Check.eq("no edges", Ask.nodes(24).round(1), 0);
+        for (int n = 1; n <= 24; n++) {
+            Check.eq("no edges", Ask.nodes(n).round(1), 0);
+        }
         WeftStore y = Ask.nodes(24);
         for (int n = 1; n < 24; n++) {
             y.edge(n % 2 == 0 ? n : 0, 0, n % 2 == 0 ? 0 : n);

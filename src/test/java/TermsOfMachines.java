@@ -37,6 +37,12 @@ final class TermsOfMachines {
         Check.notNow("none is up", () -> x.node(0, 0));
         x.toggle(0);
         Check.eq("3 and 4 and 1, of which two are not up", x.machine(x.node(0, 0)), 0);
+        WeftStore y = new WeftStore();
+        y.toggle(0);
+        y.toggle(1);
+        for (int n = 0; n < 24; n++) {
+            Check.eq("all on the only one that is up", y.machine(y.node(0, n)), 2);
+        }
     }
 
     private static void cutIfOnDifferentMachines() {

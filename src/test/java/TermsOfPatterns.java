@@ -97,6 +97,13 @@ final class TermsOfPatterns {
         answers("0 or 1", x, put(x, EDGE, 0, EDGE, 1, EITHER, 0), 2, 4, 8, 0);
         answers("the upper two first", x, put(x, EDGE, 0, EDGE, 1, EDGE, 0, JOIN, 0, EITHER, 0), 2, 8, 8, 0);
         answers("the lower two first", x, put(x, EDGE, 0, EDGE, 1, EITHER, 0, EDGE, 0, JOIN, 0), 0, 8, 0, 0);
+        WeftStore y = Ask.nodes(4);
+        y.edge(3, 0, 0);
+        y.edge(3, 0, 2);
+        y.edge(0, 0, 1);
+        y.edge(2, 0, 3);
+        answers("over 0 to 1, and over 2 to 3", y, put(y, EDGE, 0, EDGE, 0, JOIN, 0), 0, 0, 5, 10);
+        answers("back over 0 and over 2", y, put(y, BACK, 0, BACK, 0, JOIN, 0), 4, 8, 4, 8);
     }
 
     private static void anyNumberOfTimes() {
@@ -119,6 +126,7 @@ final class TermsOfPatterns {
         answers("twos", y, put(y, EDGE, 0, EDGE, 0, JOIN, 0, MANY, 0), 21, 10, 20, 8, 16);
         answers("many behind one", y, put(y, EDGE, 0, EDGE, 0, MANY, 0, JOIN, 0), 30, 28, 24, 16, 0);
         answers("many of many", y, put(y, EDGE, 0, MANY, 0, MANY, 0), 31, 30, 28, 24, 16);
+        answers("behind another one", y, put(y, NODE, 1, EDGE, 0, MANY, 0, MANY, 0, EITHER, 0), 31, 30, 28, 24, 16);
     }
 
     private static void patternsAtMost6() {
@@ -363,6 +371,9 @@ final class TermsOfPatterns {
         x.round(30);
         Check.eq("a node", x.node(0, 0), 3);
         Check.eq("mark(3)", x.mark(3), 3);
+        WeftStore y = Ask.row(3);
+        y.node(0, 0);
+        Check.eq("it puts none to sleep", y.round(1), 2);
         x.edge(3, 0, 2);
         Check.eq("2 sends 0 to 3", x.round(1), 1);
         Check.eq("mark(3)", x.mark(3), 0);
