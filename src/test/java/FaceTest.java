@@ -103,7 +103,7 @@ public final class FaceTest {
     private static void words() throws IOException {
         String text = Files.readString(Path.of("src/main/java/WeftStore.java"));
         String[] none = {"\\bimport\\b", "\\bpackage\\b", "\\btry\\b", "\\bcatch\\b", "\\bfinally\\b",
-            "\\bsynchronized\\b", "\\bassert\\b", "->", "::", "static\\s*\\{", "\\bExact\\b", "\\bhashCode\\b",
+            "\\bsynchronized\\b", "\\bassert\\b", "->", "::", "static\\s*\\{", "Exact\\b", "\\bhashCode\\b",
             "\\bSystem\\.(?!arraycopy)", "\\bObject\\b", "\\bNaN\\b", "while \\(true\\)", "for \\(;;\\)"};
         for (String word : none) {
             Check.is("the file has " + word, Pattern.compile(word).matcher(text).find(), false);
